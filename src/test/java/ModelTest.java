@@ -54,7 +54,7 @@ public final class ModelTest {
         long want = model.answer(call, a);
         long got;
         try {
-            got = answer(call, a);
+            got = Calls.answer(real, call, a);
         } catch (RuntimeException e) {
             Check.due("run " + run + " call " + made + ": " + call + Arrays.toString(a) + " threw " + e, false);
             return;
@@ -207,47 +207,5 @@ public final class ModelTest {
             default: ask("byChalk", cell(), k, sortOf(k), some(0, 3), some(1, 5), some(0, 1)); break;
         }
         ask("fault");
-    }
-
-    private static long answer(String call, int[] a) {
-        switch (call) {
-            case "knife": return real.knife(a[0], a[1], a[2], a[3]);
-            case "ofKnife": return real.ofKnife(a[0], a[1]);
-            case "lies": return real.lies(a[0], a[1], a[2], a[3]);
-            case "comes": return real.comes(a[0], a[1], a[2]);
-            case "sticks": return real.sticks(a[0], a[1]);
-            case "hand": return real.hand(a[0], a[1], a[2], a[3]);
-            case "weight": return real.weight(a[0], a[1], a[2]);
-            case "stage": return real.stage(a[0]);
-            case "likely": return real.likely(a[0], a[1], a[2], a[3], a[4]);
-            case "best": return real.best(a[0], a[1], a[2]);
-            case "board": return real.board(a[0], a[1], a[2], a[3]);
-            case "ofCell": return real.ofCell(a[0]);
-            case "hurts": return real.hurts(a[0], a[1], a[2] != 0, a[3]);
-            case "holds": return real.holds(a[0], a[1], a[2], a[3], a[4], a[5]);
-            case "allowed": return real.allowed(a[0], a[1]);
-            case "nearest": return real.nearest(a[0], a[1]);
-            case "order": return real.order(a[0], a[1], a[2], a[3], a[4], a[5]);
-            case "turned": return real.turned(a[0], a[1], a[2]);
-            case "when": return real.when(a[0], a[1], a[2], a[3], a[4], a[5], a[6], a[7]);
-            case "mark": return real.mark(a[0], a[1]);
-            case "back": return real.back(a[0]);
-            case "guessed": return real.guessed(a[0], a[1]);
-            case "tells": return real.tells(a[0], a[1]);
-            case "chalk": return real.chalk(a[0], a[1], a[2], a[3], a[4], a[5]);
-            case "byChalk": return real.byChalk(a[0], a[1], a[2], a[3], a[4], a[5]);
-            case "sheet": return real.sheet(a[0], a[1], a[2]);
-            case "lose": return real.lose(a[0]);
-            case "put": return real.put(a[0], a[1], a[2]);
-            case "cell": return real.cell(a[0], a[1], a[2]);
-            case "copy": return real.copy(a[0], a[1], a[2], a[3], a[4]);
-            case "tell": return real.tell(a[0]);
-            case "whet": return real.whet(a[0]);
-            case "as": return real.as(a[0], a[1]);
-            case "trace": return real.trace();
-            case "fault": return real.fault();
-            case "many": return real.many(a[0]);
-            default: throw new IllegalArgumentException(call);
-        }
     }
 }
