@@ -79,7 +79,10 @@ public final class HandTest {
         for (int code : new int[] {'0', '0' - 1, '9' + 1, 't'}) {
             TextRefusals.spoilt(new Run("tires not").hand(OLD), "hand", STRAIGHT + ";t1", 22, code);
         }
-        new Run("two digits").text(0, 0, STRAIGHT + ";t10").still(-123, "hand", 0, 0, 0, 24);
+        for (char code : "0123456789;htua".toCharArray()) {
+            new Run("behind tires").hand(OLD).text(0, 0, STRAIGHT + ";t1" + code).still(-123, "hand", 0, 0, 0, 24);
+        }
+        new Run("two texts").text(0, 0, STRAIGHT + ";t1" + STRAIGHT).still(-123, "hand", 0, 0, 0, 43);
         new Run("t twice").text(0, 0, STRAIGHT + ";t1;t1").still(-123, "hand", 0, 0, 0, 26);
     }
 

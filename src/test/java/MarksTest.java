@@ -126,6 +126,9 @@ public final class MarksTest {
         new Run("all alike").knife(0, 1, 1, 0).due(1, "tells", 0, 0).due(288, "tells", 0, 1);
         // 24 of START and TURN together 24; from 1 foot all are POINT, from 2 feet they lie by TURN: 1, 1, 10, 12
         new Run("two feet").knife(0, 1, 1, 0).due(0, "mark", 1, 0).due(2, "tells", 0, 0).due(12, "tells", 0, 1);
+        // FLAT from 8 feet: START and TURN together 6 or 18; from 40 they lie 4 TURN farther: 16 POINT, BUTT, FLAT each
+        new Run("forty feet").knife(0, 8, 1, 5).due(0, "mark", 8, 2).due(48, "guessed", 0, 0).due(40, "tells", 0, 0)
+                .due(16, "tells", 0, 1);
         // one is left: any feet tell as much
         new Run("one left").knife(0, 1, 1, 0).due(0, "mark", 1, 0).due(1, "mark", 2, 0).due(1, "tells", 0, 0)
                 .due(1, "tells", 0, 1);
@@ -179,6 +182,12 @@ public final class MarksTest {
                 if (place < 2) x.due(-99, "chalk", 0, 2, 2, 1, 0, 0);
                 else x.due(99, "chalk", 0, 2, 0, 1, 0, 0);
             }
+        }
+        // the last number of many rows, too
+        for (int n = 3; n <= 40; n++) {
+            Run many = new Run("farthest of " + n).due(1, "sheet", 0, 1, 80).due(1, "put", 0, 2 * n - 1, 100);
+            many.due(Run.LOST, "chalk", 0, 1, 0, n, 0, 0).due(0, "chalk", 0, 1, 0, n - 1, 0, 0);
+            many.due(1, "put", 0, 2 * n - 1, 99).share(99, 1, "chalk", 0, 1, 0, n, 3);
         }
         Run bytes = new Run("bytes").row(0, 0, 100, -100, 156, 0).lost(0, "chalk", 0, 0, 0, 1, 0, 0)
                 .lost(0, "chalk", 0, 0, 2, 1, 0, 0);

@@ -180,14 +180,15 @@ public final class PromisesTest {
         KnifeBoard x = new KnifeBoard();
         String whole = "h00001;u10000;a00900;t9";
         for (int n = 0; n < whole.length(); n++) {
-            due("hand ends at " + n, hand(x, whole.substring(0, n)), n == 20 ? 1 : -100 - n);
+            due("hand ends at " + n, hand(new KnifeBoard(), whole.substring(0, n)), n == 20 ? 1 : -100 - n);
         }
         due("whole hand", hand(x, whole), 1);
         due("tires", x.many(5), 9);
         due("one code more", hand(x, whole + "0"), -123);
         due("one code more than short", hand(x, whole.substring(0, 20) + "0"), -120);
         for (int place = 0; place < whole.length(); place++) {
-            due("spoilt at " + place, hand(x, whole.substring(0, place) + "?" + whole.substring(place + 1)), -100 - place);
+            String spoilt = whole.substring(0, place) + "?" + whole.substring(place + 1);
+            due("spoilt at " + place, hand(new KnifeBoard(), spoilt), -100 - place);
         }
         due("old hand stays", x.many(5), 9);
         due("all five 0", hand(x, "h00000;u10000;a00900"), -105);

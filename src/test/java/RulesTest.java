@@ -18,6 +18,7 @@ public final class RulesTest {
         millionthsCut();
         stagesOfThrows();
         orderRefused();
+        onceInThisCall();
         Check.end();
     }
 
@@ -182,6 +183,14 @@ public final class RulesTest {
                 .still(Run.OUTSIDE, "order", 0, 1, 1, 0, 2, 9);
         x.stillEach(Run.UNKNOWN, "order", right, 5, -2, 6, Run.LEAST, Run.MOST).still(0, "order", right);
         orderState();
+    }
+
+    /** "(each but once)": of the cells of this call, not of those of one before. */
+    private static void onceInThisCall() {
+        Run x = new Run("once").hand(STRAIGHT).board("b16;wwwwww").row(0, 0, 4, 1, 4, 0, 1, 3);
+        x.due(Run.OUTSIDE, "order", 0, 0, 0, 0, 6, 0).due(1, "order", 0, 0, 0, 0, 2, 0).due(4, "order", 0, 0, 0, 0, 2, 1);
+        x.due(Run.OUTSIDE, "order", 0, 0, 0, 0, 3, 0).due(0, "order", 0, 0, 0, 1, 3, 0).due(4, "order", 0, 0, 0, 2, 1, 0);
+        x.due(Run.NONE, "order", 0, 0, 0, 2, 1, 1).due(4, "order", 0, 0, 0, 2, 4, 3);
     }
 
     /** OUTSIDE: first, ahead of CAST, NULL, SIZE, INDEX. */

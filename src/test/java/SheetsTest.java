@@ -23,6 +23,7 @@ public final class SheetsTest {
         tellings();
         whetted();
         traceWraps();
+        lastCall();
         partsRefused();
         asKinds();
         faultOfTheLatest();
@@ -186,8 +187,13 @@ public final class SheetsTest {
         for (int[] a : wrong) {
             x.still(Run.NULL, "copy", 2, a[0], 0, a[1], a[2]).still(Run.NULL, "copy", 0, a[0], 2, a[1], a[2]);
             x.still(Run.NULL, "copy", 2, a[0], 3, a[1], a[2]).still(Run.NULL, "copy", 2, a[0], 2, a[1], a[2]);
+            x.still(Run.NULL, "copy", 1, a[0], 2, a[1], a[2]).still(Run.NULL, "copy", 3, a[0], 1, a[1], a[2]);
             x.still(Run.CAST, "copy", 0, a[0], 1, a[1], a[2]).still(Run.CAST, "copy", 1, a[0], 0, a[1], a[2]);
         }
+        // what had a SORT and has nothing has none
+        Run lost = new Run("lost ones").row(0, 0, 1).row(1, 1, 1).row(2, 2, 1).due(1, "lose", 1).due(1, "lose", 2);
+        lost.still(Run.NULL, "copy", 1, 0, 2, 0, 1).still(Run.NULL, "copy", 0, 0, 1, 0, 1);
+        lost.still(Run.NULL, "copy", 2, 0, 0, 0, 1).lost(1, "cell", 1, 0, 0).lost(1, "cell", 2, 0, 1);
         new Run("ints to shorts").row(0, 2, 1).row(1, 1, 1).row(2, 0, 1).still(Run.CAST, "copy", 0, 0, 1, 0, 1)
                 .still(Run.CAST, "copy", 0, 0, 2, 0, 1);
     }
@@ -239,6 +245,17 @@ public final class SheetsTest {
             x.due(0, "whet", 0).due(1, "tell", 0).due(trace, "trace").due(trace, "trace");
         }
         Check.due("it has wrapped", below);
+    }
+
+    /** "An object is used for at most 512 calls": the last of them answers as the first. */
+    private static void lastCall() {
+        Run x = new Run("512 calls").knife(1, 9, 1, 0);
+        int trace = 0;
+        for (int call = 2; call < Run.MOST_CALLS; call++) {
+            trace = 31 * (31 * trace + 2) + 1;
+            x.due(109, "tell", 0);
+        }
+        x.due(trace, "trace");
     }
 
     /** "UNKNOWN", of tell, whet, as: nothing is left in TRACE. */

@@ -16,6 +16,7 @@ public final class WheelTest {
         breath();
         byMostM();
         stage0();
+        besideTheWheel();
         fromATick();
         thousandBehind();
         whenRefused();
@@ -129,6 +130,27 @@ public final class WheelTest {
     private static void stage0() {
         Run x = turning("stage 0", STRAIGHT + ";t1").due(59, "when", 0, 9, 0, 60, 1, 0, 999, 0).due(9, "stage", 9999);
         x.due(9999, "when", 0, 9, 0, 60, 1, 0, 0, 9999);
+        // breathing in, too: it does not stray to the cells about, nor away from her
+        Run in = new Run("stage 0, in").hand(STRAIGHT + ";t1").board("b33;yyy;ywy;yyy").knife(0, 9, 1, 0);
+        in.due(9, "when", 0, 9, 4, 1, 60, 60, 0, 9).due(Run.NONE, "when", 0, 9, 0, 1, 60, 60, 999, 9);
+        in.due(9, "when", 0, 9, 0, 1, 60, 60, 1000, 9).due(9, "when", 0, 9, 0, 1, 60, 0, 0, 9);
+    }
+
+    /** Beside the BOARD nothing hurts, however far the wheel has turned. */
+    private static void besideTheWheel() {
+        String[] five = {"70000", "07000", "00070", "00007"};
+        int[] strays = {-2, -1, 1, 2};
+        for (int at = 0; at < 4; at++) {
+            Run up = new Run("beside, up").hand("h00100;u" + five[at] + ";a00100").board("b22;xy;yx").knife(0, 9, 1, 0);
+            Run across = new Run("beside").hand("h00100;u00100;a" + five[at]).board("b22;xy;yx").knife(0, 9, 1, 0);
+            for (int c = 0; c < 4; c++) {
+                int row = c / 2 - strays[at], column = c % 2 + strays[at];
+                for (int from = 0; from < 240; from += 60) {
+                    up.due(row < 0 || row > 1 ? from : Run.NONE, "when", 0, 1, c, 60, 1, 1, 0, from);
+                    across.due(column < 0 || column > 1 ? from : Run.NONE, "when", 0, 1, c, 60, 1, 1, 0, from);
+                }
+            }
+        }
     }
 
     /** "the first tick t from a told one on (0 .. 9999". */
